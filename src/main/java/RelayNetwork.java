@@ -699,9 +699,9 @@ public final class RelayNetwork {
                 if (inFirst && inSecond) {
                     uniteChannels(state, first, second, channel);
                 } else if (inFirst) {
-                    tellOfChannel(state, first, second, channel);
+                    tellOfChannel(state, first, state.networkOf(second), channel);
                 } else if (inSecond) {
-                    tellOfChannel(state, second, first, channel);
+                    tellOfChannel(state, second, state.networkOf(first), channel);
                 }
             }
         }
@@ -726,13 +726,13 @@ public final class RelayNetwork {
             state.deprived += Integer.bitCount(state.operatorsIn(network, channel));
             state.dropped += Integer.bitCount(state.modesOfChannel(younger, channel));
             state.setOperators(network, channel, 0);
-            tellOfChannel(state, older, younger, channel);
+            tellOfChannel(state, older, network, channel);
         }
 
-        /** The network of the server "to" takes over what the other network knows of a channel. */
-        private static void tellOfChannel(State state, int from, int to, int channel) {
-            state.describeChannel(state.networkOf(to), channel,
-                    state.timeOfChannel(from, channel), state.modesOfChannel(from, channel));
+        /** The network takes over what a server of the other one knows of a channel. */
+        private static void tellOfChannel(State state, int server, int network, int channel) {
+            state.describeChannel(network, channel,
+                    state.timeOfChannel(server, channel), state.modesOfChannel(server, channel));
         }
     }
 
@@ -889,7 +889,6 @@ public final class RelayNetwork {
 
         void findBest(State state) {
             opening = NONE;
-            bestOpening = NONE;
             bestSurvivors = -1;
             search(0, load(state));
         }

@@ -124,6 +124,17 @@ public final class FaceTest {
         expect(!code.contains("package "), "a package line");
         expect(text.chars().allMatch(c -> c < 128), "a sign beyond 127");
         methodsAreShort(code);
+        callsMakeNothing(code);
+    }
+
+    /** All runs share one room, so objects are made with the network and by no later call. */
+    private static void callsMakeNothing(String code) {
+        for (String line : code.split("\n")) {
+            boolean made = Pattern.compile("\\bnew\\b|\\.clone\\(|copyOf|substring|toCharArray")
+                    .matcher(line).find();
+            expect(!made || line.trim().startsWith("private final ")
+                    || line.trim().equals("rows[row] = new State();"), "makes: " + line.trim());
+        }
     }
 
     private static void methodsAreShort(String code) {

@@ -74,6 +74,15 @@ public final class ForecastTest {
                 + "signOn(2,2) = 1; advance(1) = 1; signOn(2,1) = 2; signOn(1,2) = 2;"
                 + "fewestKills() = 5; bestFirstLink() = 1; signOn(0,3) = 3; signOn(2,3) = 3;"
                 + "advance(1) = 2; signOn(1,3) = 3; fewestKills() = 7; bestFirstLink() = 2");
+        // An older user may have to kill one of two equal younger ones before it dies itself.
+        SCRIPT.run("createServers(5) = 0; signOn(0,0) = 1; signOn(1,0) = 1; advance(2) = 2;"
+                + "signOn(3,0) = 1; signOn(4,0) = 1; fewestKills() = 3; bestFirstLink() = 2;"
+                + "connect(0,1) = 2; fewestKills() = 2; undo() = 6; connect(0,2) = 0;"
+                + "connect(0,3) = 1; connect(0,1) = 2; connect(0,4) = 0; visibleUsers(0) = 1");
+        SCRIPT.run("createServers(5) = 0; signOn(0,0) = 1; signOn(0,2) = 2; signOn(1,0) = 1;"
+                + "signOn(1,1) = 2; signOn(2,1) = 1; signOn(3,2) = 1; advance(1) = 1;"
+                + "signOn(3,0) = 2; signOn(3,1) = 3; signOn(4,1) = 1; advance(1) = 2;"
+                + "signOn(1,2) = 3; signOn(2,0) = 2; fewestKills() = 8; bestFirstLink() = 3");
         // Users of one network are not killed.
         SCRIPT.run("createServers(2) = 0; signOn(0,1) = 1; signOn(1,2) = 1; connect(0,1) = 0;"
                 + "fewestKills() = 0; bestFirstLink() = -9");

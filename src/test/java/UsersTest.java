@@ -49,6 +49,11 @@ public final class UsersTest {
                 + "operators(0,0) = 512; members(0,1) = 516; operators(0,1) = 4; join(0,1,0) = -2;"
                 + "signOn(0,1) = 3; join(0,1,0) = 3; operators(0,0) = 512; kick(0,9,0,1) = 2;"
                 + "signOff(0,9) = 2");
+        // The last server, the last nick and the last channel, and the same nick next door.
+        SCRIPT.run("createServers(6) = 0; signOn(5,9) = 1; signOn(4,9) = 1; join(5,9,0) = 1;"
+                + "join(5,9,3) = 1; changeNick(4,9,8) = 0; members(4,3) = 0; members(5,0) = 512;"
+                + "changeNick(5,9,0) = 0; members(5,3) = 1; operators(5,0) = 1;"
+                + "members(4,0) = 0; signOff(5,0) = 2; signOff(4,8) = 0");
     }
 
     private static void questions() {
