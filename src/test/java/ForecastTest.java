@@ -83,6 +83,11 @@ public final class ForecastTest {
                 + "signOn(1,1) = 2; signOn(2,1) = 1; signOn(3,2) = 1; advance(1) = 1;"
                 + "signOn(3,0) = 2; signOn(3,1) = 3; signOn(4,1) = 1; advance(1) = 2;"
                 + "signOn(1,2) = 3; signOn(2,0) = 2; fewestKills() = 8; bestFirstLink() = 3");
+        // Two users of different timestamps leave one, which must not hide the better plan.
+        SCRIPT.run("createServers(3) = 0; signOn(0,0) = 1; signOn(2,0) = 1; signOn(0,1) = 2;"
+                + "advance(1) = 1; signOn(1,0) = 1; signOn(1,1) = 2; fewestKills() = 3;"
+                + "bestFirstLink() = 2; connect(0,1) = 2; connect(0,2) = 2; undo() = 7;"
+                + "undo() = 6; connect(0,2) = 2; connect(0,1) = 1; visibleUsers(0) = 3");
         // Users of one network are not killed.
         SCRIPT.run("createServers(2) = 0; signOn(0,1) = 1; signOn(1,2) = 1; connect(0,1) = 0;"
                 + "fewestKills() = 0; bestFirstLink() = -9");
