@@ -1,11 +1,8 @@
-import java.util.Arrays;
-
 /**
  * Wrong arguments of every call: each one out of its range, alone and with others, answers
  * INVALID_ARGUMENT whatever the state is, and changes nothing; and no arguments ever throw.
  */
 public final class ArgumentsTest {
-    private static final Script SCRIPT = new Script("ArgumentsTest");
     private static final int[] OUTSIDE =
         {Integer.MIN_VALUE, Integer.MIN_VALUE + 1, -1000, -32, -2, -1, 1001, 65536, 1 << 30,
             Integer.MAX_VALUE - 1, Integer.MAX_VALUE};
@@ -20,12 +17,15 @@ public final class ArgumentsTest {
         "appendCharacter 0 255", "applyModes 0 3 0 9 0 3", "members 0 3 0 3", "operators 0 3 0 3",
         "modes 0 3 0 3", "channelTimestamp 0 3 0 3", "burstSize 0 3 0 3",
         "killsIfConnected 0 3 0 3", "lostIfDisconnected 0 3 0 3"};
+    private static Boundary boundary;
 
-    public static void main(String[] args) {
+    public static void main(String[] args) throws Exception {
+        boundary = new Boundary("ArgumentsTest");
+        boundary.description("`INVALID_ARGUMENT = -1`: An argument is out of its range");
         for (String call : CALLS) {
             check(call.split(" "));
         }
-        SCRIPT.end();
+        boundary.end();
     }
 
     private static void check(String[] call) {
@@ -36,24 +36,25 @@ public final class ArgumentsTest {
             least[k] = Integer.parseInt(call[2 * k + 1]);
             greatest[k] = Integer.parseInt(call[2 * k + 2]);
         }
-        RelayNetwork network = SCRIPT.run(BEGIN);
-        String before = Script.view(network);
         for (int wrong = 0; wrong < parameters; wrong++) {
+            StringBuilder rows = new StringBuilder(BEGIN);
             for (int k = 0; k < OUTSIDE.length + 2; k++) {
                 int value = k < OUTSIDE.length ? OUTSIDE[k]
                         : k == OUTSIDE.length ? least[wrong] - 1 : greatest[wrong] + 1;
                 for (int[] others : new int[][] {least, greatest, middle(least), outside()}) {
-                    Object[] arguments = new Object[parameters];
-                    for (int p = 0; p < parameters; p++) {
-                        arguments[p] = p == wrong ? value : others[p];
-                    }
-                    SCRIPT.due("BEGIN", call[0] + Arrays.toString(arguments),
-                            SCRIPT.answer(network, call[0], arguments), -1);
+                    rows.append(row(call[0], parameters, wrong, value, others));
                 }
             }
+            boundary.run(rows + "clearText() = 4; undo() = 7");
         }
-        SCRIPT.due(call[0], "changes", before.equals(Script.view(network)) ? 0 : 1, 0);
-        SCRIPT.on(network, "clearText() = 4; undo() = 7");
+    }
+
+    private static String row(String name, int parameters, int wrong, int value, int[] others) {
+        StringBuilder row = new StringBuilder(name);
+        for (int k = 0; k < parameters; k++) {
+            row.append(k == 0 ? "(" : ",").append(k == wrong ? value : others[k]);
+        }
+        return row + ") = -1;";
     }
 
     private static int[] middle(int[] least) {

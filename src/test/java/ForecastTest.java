@@ -119,12 +119,12 @@ public final class ForecastTest {
     }
 
     private static void nothingChanges() {
-        RelayNetwork network = SCRIPT.run("createServers(5) = 0; connect(0,1) = 0;"
-                + "connect(1,2) = 0; signOn(0,1) = 1; signOn(3,1) = 1; signOn(4,1) = 1;"
-                + "join(0,1,0) = 1; join(3,1,0) = 1; '+i'");
-        String before = Script.view(network);
-        SCRIPT.due("forecasts", "changes", before.equals(Script.view(network)) ? 0 : 1, 0);
-        SCRIPT.on(network, "lostIfDisconnected(0,1) = 0; hops(0,2) = 2; fewestKills() = 2;"
-                + "bestFirstLink() = 3; visibleUsers(4) = 2; clearText() = 2; undo() = 7");
+        String begin = "createServers(5) = 0; connect(0,1) = 0; connect(1,2) = 0; signOn(0,1) = 1;"
+                + "signOn(3,1) = 1; signOn(4,1) = 1; join(0,1,0) = 1; join(3,1,0) = 1; '+i';";
+        String asked = begin + "burstSize(0,3) = 8; killsIfConnected(3,4) = 2;"
+                + "lostIfDisconnected(0,1) = 0; fewestKills() = 2; bestFirstLink() = 3;";
+        SCRIPT.due("forecasts", "changes",
+                SCRIPT.view(begin).equals(SCRIPT.view(asked)) ? 0 : 1, 0);
+        SCRIPT.run(asked + "hops(0,2) = 2; visibleUsers(4) = 2; clearText() = 2; undo() = 7");
     }
 }

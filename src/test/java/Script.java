@@ -86,32 +86,8 @@ final class Script {
         }
     }
 
-    /** All that can be asked without a change, so that two moments can be compared. */
-    static String view(RelayNetwork network) {
-        StringBuilder view = new StringBuilder();
-        view.append(network.time()).append(' ').append(network.lastDeprived());
-        view.append(' ').append(network.lastDropped()).append(' ').append(network.fewestKills());
-        view.append(' ').append(network.bestFirstLink());
-        for (int server = 0; server < 6; server++) {
-            view.append("\nserver ").append(server).append(": ");
-            view.append(network.visibleUsers(server));
-            for (int nick = 0; nick < 10; nick++) {
-                view.append(' ').append(network.homeServer(server, nick));
-                view.append('@').append(network.userTimestamp(server, nick));
-            }
-            for (int channel = 0; channel < 4; channel++) {
-                view.append(" #").append(network.members(server, channel));
-                view.append(',').append(network.operators(server, channel));
-                view.append(',').append(network.modes(server, channel));
-                view.append(',').append(network.channelTimestamp(server, channel));
-            }
-            for (int other = 0; other < 6; other++) {
-                view.append(" >").append(network.hops(server, other));
-                view.append(',').append(network.burstSize(server, other));
-                view.append(',').append(network.killsIfConnected(server, other));
-                view.append(',').append(network.lostIfDisconnected(server, other));
-            }
-        }
-        return view.toString();
+    /** All that the questions answer behind the calls. */
+    String view(String calls) {
+        return Looks.users(run(calls)) + Looks.channels(run(calls)) + Looks.pairs(run(calls));
     }
 }

@@ -21,12 +21,10 @@ public final class UndoTest {
             "join(0,0,0) = 2", "part(0,2,0) = 0", "part(1,0,0) = 1", "kick(1,1,0,0) = 1",
             "kick(0,2,0,2) = 0", "applyModes(1,1,0) = 2"};
         for (String edit : edits) {
-            RelayNetwork network = SCRIPT.run(begin);
-            String before = Script.view(network);
-            SCRIPT.on(network, edit);
-            SCRIPT.due(edit, "changes", before.equals(Script.view(network)) ? 0 : 1, 1);
-            SCRIPT.on(network, "undo() = 7");
-            SCRIPT.due(edit, "undone", before.equals(Script.view(network)) ? 1 : 0, 1);
+            String before = SCRIPT.view(begin);
+            SCRIPT.due(edit, "changes", before.equals(SCRIPT.view(begin + edit)) ? 0 : 1, 1);
+            String undone = SCRIPT.view(begin + edit + "; undo() = 7");
+            SCRIPT.due(edit, "undone", before.equals(undone) ? 1 : 0, 1);
         }
         // The results of the last merge come back as well.
         SCRIPT.run(begin + "connect(0,1) = 2; lastDeprived() = 1; lastDropped() = 2;"
@@ -48,14 +46,18 @@ public final class UndoTest {
     }
 
     private static void errorsAndQuestionsAreNoEdits() {
-        RelayNetwork network = SCRIPT.run("createServers(2) = 0; signOn(0,1) = 1; join(0,1,0) = 1;"
+        SCRIPT.run("createServers(2) = 0; signOn(0,1) = 1; join(0,1,0) = 1;"
                 + "createServers(9) = -1; connect(0,0) = -1; disconnect(0,1) = -2;"
                 + "advance(0) = -1; signOn(0,1) = -2; signOff(0,2) = -2; changeNick(0,1,1) = -2;"
                 + "join(0,1,0) = -2; part(0,1,1) = -2; kick(0,1,0,2) = -2;"
                 + "applyModes(0,1,0) = -10; appendCharacter(43) = 1; clearText() = 1;"
-                + "applyModes(1,1,0) = -2");
-        Script.view(network);
-        SCRIPT.on(network, "undo() = 2; undo() = 1; undo() = 0; visibleUsers(1) = -1; undo() = -2");
+                + "applyModes(1,1,0) = -2; undo() = 2; undo() = 1; undo() = 0;"
+                + "visibleUsers(1) = -1; undo() = -2");
+        RelayNetwork network = SCRIPT.run("createServers(2) = 0; signOn(0,1) = 1;");
+        Looks.users(network);
+        Looks.channels(network);
+        Looks.pairs(network);
+        SCRIPT.on(network, "undo() = 1; undo() = 0; undo() = -2");
         // An edit that leaves everything as it was is one all the same.
         SCRIPT.run("createServers(1) = 0; signOn(0,1) = 1; join(0,1,0) = 1; '-i';"
                 + "applyModes(0,1,0) = 1; undo() = 3; members(0,0) = 2; undo() = 2;"
