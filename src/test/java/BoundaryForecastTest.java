@@ -226,6 +226,11 @@ public final class BoundaryForecastTest {
             }
             boundary.run(rows + "fewestKills() = " + (servers - servers % 2));
         }
+        // The first plan that comes to mind kills four, and a later one three.
+        boundary.run("createServers(3) = 0; signOn(0,0) = 1; signOn(2,0) = 1; signOn(0,1) = 2;"
+                + "advance(1) = 1; signOn(1,0) = 1; signOn(1,1) = 2; fewestKills() = 3;"
+                + "bestFirstLink() = 2; connect(0,1) = 2; fewestKills() = 2; undo() = 7;"
+                + "connect(0,2) = 2; fewestKills() = 1");
         // The most users that there can be: all sixty die, or fifty where the timestamps differ.
         StringBuilder equal = new StringBuilder("createServers(6) = 0;");
         StringBuilder different = new StringBuilder("createServers(6) = 0;");

@@ -50,9 +50,10 @@ public final class BoundaryServersTest {
                 + "join(0,0,0) = 1; join(5,9,0) = 2; join(5,9,3) = 1;";
         boundary.run(world + "createServers(6) = 2; time() = 0; visibleUsers(0) = 0;"
                 + "visibleUsers(5) = 0; members(0,0) = 0; members(5,3) = 0; modes(5,3) = -9;"
-                + "operators(5,0) = 0; channelTimestamp(0,0) = -9; hops(0,1) = -9; hops(1,2) = -9;"
+                + "operators(0,0) = 0; operators(5,3) = 0; hops(0,1) = -9; hops(1,2) = -9;"
                 + "hops(2,3) = -9; hops(3,4) = -9; hops(4,5) = -9; hops(5,0) = -9;"
-                + "disconnect(0,1) = -2; disconnect(4,5) = -2; connect(0,5) = 0");
+                + "disconnect(0,1) = -2; disconnect(4,5) = -2; connect(0,5) = 0;"
+                + "channelTimestamp(0,0) = -9; channelTimestamp(5,3) = -9");
         // What the last server had does not come back with it.
         boundary.run(world + "createServers(1) = 2; visibleUsers(0) = 0; visibleUsers(1) = -1;"
                 + "createServers(6) = 0; visibleUsers(5) = 0; homeServer(5,9) = -9;"

@@ -5,6 +5,7 @@ public final class BoundaryUndoTest {
     public static void main(String[] args) throws Exception {
         boundary = new Boundary("BoundaryUndoTest");
         latestEdit();
+        latestEditOfAChannel();
         stillUndone();
         none();
         boundary.endOfPromises(31, 31);
@@ -26,6 +27,33 @@ public final class BoundaryUndoTest {
                 + "visibleUsers(5) = -1; undo() = 3; visibleUsers(5) = 512; members(5,3) = 512;"
                 + "undo() = 2; members(5,3) = 0; undo() = 1; visibleUsers(5) = 0; undo() = 0;"
                 + "visibleUsers(5) = -1; visibleUsers(0) = 0; visibleUsers(1) = -1");
+    }
+
+    /** Each edit of a channel, on the first and on the last server, nick and channel. */
+    private static void latestEditOfAChannel() {
+        int[][] places = {{0, 0, 0}, {5, 9, 3}};
+        for (int[] place : places) {
+            String channel = "(" + place[0] + "," + place[2] + ") = ";
+            String user = "(" + place[0] + "," + place[1] + "," + place[2] + ") = ";
+            int bit = 1 << place[1];
+            String there = "members" + channel + (bit + 16) + "; operators" + channel + bit
+                    + "; modes" + channel + "33; channelTimestamp" + channel + "7;";
+            String begin = "createServers(6) = 0; signOn(" + place[0] + "," + place[1] + ") = 1;"
+                    + "signOn(" + place[0] + ",4) = 2; advance(7) = 7; join" + user + "1; join("
+                    + place[0] + ",4," + place[2] + ") = 2; '+it'; applyModes" + user + "2;"
+                    + "advance(1) = 8;";
+            boundary.run(begin + "'-i+mo4-o" + place[1] + "'; applyModes" + user + "4; undo() = 7;"
+                    + there);
+            boundary.run(begin + "part" + user + "1; undo() = 7;" + there);
+            boundary.run(begin + "signOff(" + place[0] + "," + place[1] + ") = 1; undo() = 7;"
+                    + there);
+            boundary.run(begin + "createServers(6) = 2; signOn(" + place[0] + "," + place[1]
+                    + ") = 1; join" + user + "1; channelTimestamp" + channel + "0; undo() = 7;"
+                    + "undo() = 6; undo() = 5;" + there);
+            boundary.run(begin + "part" + user + "1; part(" + place[0] + ",4," + place[2]
+                    + ") = 0; join" + user + "1; modes" + channel + "0; channelTimestamp" + channel
+                    + "8; undo() = 7; undo() = 6; undo() = 5;" + there);
+        }
     }
 
     private static void stillUndone() {

@@ -167,6 +167,14 @@ final class DescriptionOfCalls {
         boundary.run(errors + "undo() = -2; time() = 0; clearText() = 0");
         boundary.run(WORLD + errors + "disconnect(0,1) = -2; connect(2,3) = -2; clearText() = 4;"
                 + "undo() = 7");
+        // The results of a merge stay, too.
+        String merged = WORLD + "connect(1,2) = 0; lastDeprived() = 1; lastDropped() = 2;";
+        boundary.run(merged + errors + "disconnect(0,1) = -2; disconnect(1,3) = -2;"
+                + "connect(1,3) = -2; burstSize(1,3) = -2; killsIfConnected(1,3) = -2;"
+                + "lostIfDisconnected(1,3) = -2; signOn(3,2) = -2; changeNick(2,2,1) = -2;"
+                + "kick(1,1,0,3) = -2; kick(2,2,0,1) = -2; part(3,2,0) = -2; join(2,2,0) = -2;"
+                + "applyModes(2,2,0) = -2; lastDeprived() = 1; lastDropped() = 2; clearText() = 4;"
+                + "'+x'; applyModes(1,1,0) = -11; lastDeprived() = 1; lastDropped() = 2");
         boundary.run("signOn(0,0) = 1; join(0,0,0) = 1;" + Rows.clock(0, 9999) + "'+"
                 + "i".repeat(38) + "o';" + errors + "advance(1) = -3; appendCharacter(48) = -3;"
                 + "applyModes(0,0,0) = -50; signOn(0,0) = -2; join(0,0,0) = -2;"
