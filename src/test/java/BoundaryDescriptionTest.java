@@ -10,8 +10,11 @@ public final class BoundaryDescriptionTest {
         new DescriptionOfMerges(boundary).check();
         new DescriptionOfTexts(boundary).check();
         new DescriptionOfCalls(boundary).check();
+        notPromised();
         boundary.allNamed("What it is");
+        boundary.allNamed("The public face");
         boundary.allNamed("Description");
+        boundary.allNamed("Not promised");
         boundary.end();
     }
 
@@ -59,5 +62,25 @@ public final class BoundaryDescriptionTest {
         boundary.run("homeServer(0,9) = -9; signOn(0,9) = 1; homeServer(0,9) = 0");
         boundary.noBoundary("Description", "The constructor and the methods follow, a promise each:"
                 + " the signature, then what it does");
+    }
+
+    /** What is free has no bound, but nothing of it may reach the answers. */
+    private static void notPromised() {
+        boundary.noBoundary("Not promised", "How the state is held inside the object is free, as"
+                + " are the speed of each call, the text of toString and the behaviour of equals"
+                + " and hashCode");
+        boundary.noBoundary("Not promised", "Use of one object from several threads at once is not"
+                + " promised to be safe");
+        boundary.under("Not promised", "Nothing is promised beyond the answers and state changes"
+                + " described above, and nothing about an object after its 512th call");
+        // The 512th call is still promised, whichever it is.
+        String before = "createServers(2) = 0; signOn(0,1) = 1; join(0,1,0) = 1; advance(1) = 1;"
+                + "signOn(1,1) = 1; '+i';" + "time() = 1;".repeat(504);
+        for (String last : new String[] {"createServers(6) = 2", "connect(0,1) = 1",
+            "advance(999) = 1000", "hops(0,1) = -9", "changeNick(0,1,2) = 0", "part(0,1,0) = 0",
+            "appendCharacter(116) = 3", "clearText() = 2", "applyModes(0,1,0) = 1",
+            "burstSize(0,1) = 5", "fewestKills() = 1", "bestFirstLink() = 1", "undo() = 4"}) {
+            boundary.run(before + last);
+        }
     }
 }
